@@ -13,6 +13,7 @@ final class ContestTest {
         outOfTheContest();
         marksAreNeverBelowZero();
         places();
+        pointsForOneMark();
         placesOfBandsThatAreOut();
         spirit();
         lips();
@@ -261,6 +262,18 @@ final class ContestTest {
         check.same("as many marks", deputy.band(0, 3), deputy.band(1, 3));
         check.same("place with a deputy", 1, deputy.band(0, 4));
         check.same("points with a deputy", 3, deputy.band(0, 7));
+    }
+
+    private static void pointsForOneMark() {
+        BandDay day = players(0);
+        day.found(4);
+        day.setPiece(3, 9);
+        day.contest();
+        check.same("a deputy with 10 + 0 - 9", 1, day.band(0, 3));
+        check.same("points for one mark", 5, day.band(0, 7));
+        day.setTaste(3, 2);
+        day.contest();
+        check.same("weighed twice", 2, day.band(0, 3));
     }
 
     private static void placesOfBandsThatAreOut() {
