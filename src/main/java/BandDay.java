@@ -22,17 +22,17 @@ public final class BandDay {
     private static final int CHAIR_TELLS = 3;
     private static final int OUTLOOK_TELLS = 4;
 
-    private final Season season;
     private final Contest contest;
+    private final Season season;
     // What is only foreseen happens in a second season, made once, so that no call makes objects.
-    private final Season trial;
     private final Contest trialContest;
+    private final Season trial;
 
     public BandDay() {
-        season = new Season();
-        contest = new Contest(season);
-        trial = new Season();
-        trialContest = new Contest(trial);
+        contest = new Contest();
+        season = contest.season;
+        trialContest = new Contest();
+        trial = trialContest.season;
     }
 
     // ---- players and bands
@@ -202,15 +202,18 @@ public final class BandDay {
 
     /** How many seats the digits tell, 0 if they are not 1 to 8 digits from 1 to 4. */
     private static int seatsIn(int digits) {
-        int size = 0;
-        for (int rest = digits; rest > 0; rest /= 10) {
+        int rest = digits;
+        for (int size = 0; size <= MAX_SEATS; size++) {
+            if (rest <= 0) {
+                return size;
+            }
             int digit = rest % 10;
-            if (digit < 1 || digit > INSTRUMENTS || size == MAX_SEATS) {
+            if (digit < 1 || digit > INSTRUMENTS) {
                 return 0;
             }
-            size++;
+            rest /= 10;
         }
-        return size;
+        return 0;
     }
 
     private static void needInstrument(int instrument) {
@@ -433,6 +436,11 @@ public final class BandDay {
             return empty;
         }
 
+        /** Whether this one did better in the latest contest, without a look at the numbers of the two. */
+        boolean isBetterThan(Band other) {
+            return marks > other.marks || marks == other.marks && deputies < other.deputies;
+        }
+
         int tell(int what) {
             switch (what) {
                 case 0: return size;
@@ -624,15 +632,15 @@ public final class BandDay {
 
         int bandByPoints(int place) {
             for (int i = 0; i < bandCount; i++) {
-                if (aheadByPoints(i) == place) {
+                if (aheadByPoints(i, bands[i].points) == place) {
                     return i;
                 }
             }
             return NONE;
         }
 
-        private int aheadByPoints(int number) {
-            int points = bands[number].points;
+        /** How many bands are ahead of the one that has this number and these points. */
+        private int aheadByPoints(int number, int points) {
             int ahead = 0;
             for (int i = 0; i < bandCount; i++) {
                 if (bands[i].points > points || bands[i].points == points && i < number) {
@@ -703,11 +711,7 @@ public final class BandDay {
 
     /** The rules by which the bands of a season play one after the other. */
     private static final class Contest {
-        private final Season season;
-
-        Contest(Season season) {
-            this.season = season;
-        }
+        final Season season = new Season();
 
         /** Holds a contest and tells the band in the first place, NONE if there are no bands. */
         int hold() {
@@ -903,7 +907,7 @@ public final class BandDay {
             int winner = NONE;
             for (int i = 0; i < season.bandCount; i++) {
                 Band band = season.bands[i];
-                band.place = aheadByMarks(i);
+                band.place = aheadByMarks(i, band);
                 if (band.marks > 0) {
                     band.points += pointsFor(band.place);
                 }
@@ -914,26 +918,16 @@ public final class BandDay {
             return winner;
         }
 
-        private int aheadByMarks(int number) {
+        /** How many bands are ahead of this one, which has this number. */
+        private int aheadByMarks(int number, Band band) {
             int ahead = 0;
             for (int i = 0; i < season.bandCount; i++) {
-                if (i != number && isAhead(i, number)) {
+                Band other = season.bands[i];
+                if (other.isBetterThan(band) || i < number && !band.isBetterThan(other)) {
                     ahead++;
                 }
             }
             return ahead;
-        }
-
-        private boolean isAhead(int one, int other) {
-            Band first = season.bands[one];
-            Band second = season.bands[other];
-            if (first.marks != second.marks) {
-                return first.marks > second.marks;
-            }
-            if (first.deputies != second.deputies) {
-                return first.deputies < second.deputies;
-            }
-            return one < other;
         }
 
         private static int pointsFor(int place) {

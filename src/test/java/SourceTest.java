@@ -4,6 +4,7 @@ import java.lang.reflect.Modifier;
 import java.nio.file.Files;
 import java.nio.file.Path;
 import java.util.ArrayList;
+import java.util.Arrays;
 import java.util.List;
 import java.util.regex.Matcher;
 import java.util.regex.Pattern;
@@ -25,6 +26,10 @@ final class SourceTest {
         nothingRuledOut();
         namedExceptionsAlone();
         sizes();
+        loopsCountAgainstABound();
+        indexesAreLookedAt();
+        constructorsHandOutNothing();
+        methodsAreShort();
         check.end();
     }
 
@@ -61,9 +66,14 @@ final class SourceTest {
         check.holds("the source throws", times > 0);
     }
 
-    private static void sizes() {
+    private static List<Class<?>> classes() {
         List<Class<?>> classes = new ArrayList<>(List.of(BandDay.class.getDeclaredClasses()));
         classes.add(BandDay.class);
+        return classes;
+    }
+
+    private static void sizes() {
+        List<Class<?>> classes = classes();
         check.holds("at most 12 classes", classes.size() <= 12);
         for (Class<?> one : classes) {
             long fields = Stream.of(one.getDeclaredFields())
@@ -74,6 +84,72 @@ final class SourceTest {
             for (Executable body : bodies) {
                 check.holds(body + " has at most 7 parameters", body.getParameterCount() <= 7);
             }
+        }
+    }
+
+    private static void loopsCountAgainstABound() throws IOException {
+        String code = code();
+        check.holds("no loop without a counter", !Pattern.compile("\\b(while|do)\\b").matcher(code).find());
+        Matcher loop = Pattern.compile("\\bfor \\((.*)\\) \\{").matcher(code);
+        int loops = 0;
+        while (loop.find()) {
+            loops++;
+            check.holds("for (" + loop.group(1) + ") counts against a bound", loop.group(1).matches(
+                    "int (\\w+) = [^;]+; \\1 (<|<=|>=) [^;]+; \\1(\\+\\+|--)"));
+        }
+        check.holds("each loop was seen", loops > 0 && loops == code.split("\\bfor\\b").length - 1);
+    }
+
+    /** The methods and constructors of the source, without comments. */
+    private static List<String> methods() throws IOException {
+        List<String> methods = new ArrayList<>();
+        String body = "(?ms)^( {4}| {8})(?=\\w)[\\w\\[\\] ]+\\([^{;=]*\\{\\n.*?^\\1\\}$";
+        Matcher method = Pattern.compile(body).matcher(code());
+        while (method.find()) {
+            methods.add(method.group());
+        }
+        return methods;
+    }
+
+    /** An index that is no written number is looked at in the method that uses it, or by needInstrument. */
+    private static void indexesAreLookedAt() throws IOException {
+        Pattern use = Pattern.compile("\\w\\[(\\w+)\\]");
+        int uses = 0;
+        for (String method : methods()) {
+            Matcher used = use.matcher(method);
+            while (used.find()) {
+                String index = used.group(1);
+                if (index.matches("\\d+|[A-Z_]+")) {
+                    continue;
+                }
+                uses++;
+                String ahead = method.substring(0, used.start());
+                String[] looks = {"for (int " + index + " = ", index + " >= 0 && " + index + " < ",
+                    "needInstrument(" + index + ");", index + " >= MAX_"};
+                check.holds("[" + index + "] is looked at ahead of its use in\n" + method,
+                        Arrays.stream(looks).anyMatch(ahead::contains));
+            }
+        }
+        check.holds("indexes were seen", uses > 0);
+    }
+
+    private static void constructorsHandOutNothing() throws IOException {
+        String code = code();
+        check.holds("no object of the source is made from parts of another one",
+                !Pattern.compile("new (Player|Chair|Band|Season|Contest)\\([^)]").matcher(code).find());
+        check.holds("nobody hands out this", !Pattern.compile("\\bthis\\b").matcher(code).find());
+    }
+
+    private static void methodsAreShort() throws IOException {
+        List<String> methods = methods();
+        int bodies = 0;
+        for (Class<?> one : classes()) {
+            bodies += (int) Stream.of(one.getDeclaredMethods()).filter(method -> !method.isSynthetic()).count();
+        }
+        check.holds("each of " + bodies + " methods was seen, and constructors: " + methods.size(),
+                methods.size() >= bodies);
+        for (String method : methods) {
+            check.holds("at most 60 lines:\n" + method, method.split("\n").length <= 60);
         }
     }
 }
